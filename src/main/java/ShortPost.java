@@ -71,7 +71,7 @@ public final class ShortPost {
         writer = new Writer();
         reader = new Reader(shelf);
         trainer = new Trainer(spare);
-        wire = new Wire(shelf, reader);
+        wire = new Wire(shelf);
         envelope = new Bytes(WRITTEN_LIMIT);
         packedBits = NONE;
         latestFault = 0;
@@ -219,7 +219,7 @@ public final class ShortPost {
         if (i < 0 || what < 0 || what > 2) {
             return BAD;
         }
-        int at = packedBits == NONE ? NONE : packed.startOfPart(i);
+        int at = packed.startOfPart(i);
         if (at == NONE) {
             return NONE;
         }
@@ -282,7 +282,11 @@ public final class ShortPost {
         if (shelf.isFull()) {
             return FULL;
         }
-        trainer.run(kind == RANKED, pieces);
+        trainer.begin();
+        boolean gaining = true;
+        for (int round = 0; round < pieces && gaining; round++) {
+            gaining = trainer.takeNext(kind == RANKED);
+        }
         if (trainer.taken.number == 0) {
             return NONE;
         }
@@ -419,10 +423,12 @@ public final class ShortPost {
     }
 
     public int latest() {
-        if (!wire.hasLetter) {
+        if (wire.newest == null) {
             return NONE;
         }
-        output.become(wire.newest);
+        // BOOKS never change: read now, it is what it was as it came.
+        reader.read(wire.newest.written);
+        output.become(reader.letter);
         return output.size;
     }
 
@@ -508,8 +514,12 @@ public final class ShortPost {
 
         /** How many bytes from here on are those of the other from there on, most at the most. */
         int alike(int here, Bytes other, int there, int most) {
+            if (here < 0 || there < 0) {
+                return 0;
+            }
+            int last = Math.min(most, Math.min(size - here, other.size - there));
             int n = 0;
-            while (n < most && here + n < size && at(here + n) == other.at(there + n)) {
+            while (n < last && values[here + n] == other.values[there + n]) {
                 n++;
             }
             return n;
@@ -556,7 +566,10 @@ public final class ShortPost {
         }
 
         int length(int k) {
-            return end(k) - start(k);
+            if (k < 0 || k >= number) {
+                return 0;
+            }
+            return k == 0 ? ends[0] : ends[k] - ends[k - 1];
         }
 
         /** The END of the PIECE in which a place is; 0 if it is in none. */
@@ -698,6 +711,7 @@ public final class ShortPost {
         private Bytes letter;
         private Pieces pieces;
         private int size;
+        private int toldPlaces;
 
         Packer() {
             for (int n = 1; n <= LETTER_LIMIT; n++) {
@@ -712,8 +726,8 @@ public final class ShortPost {
                 followRow(i);
                 followLetter(i);
                 tryOwn(i);
-                tryTold(i);
-                tryFar(i);
+                tryCopies(i, TOLD, rowRuns, toldPlaces, KIND_BITS + width(pieces.row.size));
+                tryCopies(i, FAR, letterRuns, i, KIND_BITS + width(i));
                 if (ranked) {
                     tryWhole(i);
                 }
@@ -735,6 +749,7 @@ public final class ShortPost {
             letter = ofLetter;
             pieces = withPieces;
             size = Math.min(letter.size, LETTER_LIMIT);
+            toldPlaces = Math.min(pieces.row.size, ROW_LIMIT);
             prices[size] = 0;
             partsLeft[size] = 0;
             Arrays.fill(rowRuns, 0);
@@ -745,7 +760,7 @@ public final class ShortPost {
         private void followRow(int i) {
             int value = letter.at(i);
             for (int k = 0; k < pieces.number; k++) {
-                int end = Math.min(pieces.end(k), ROW_LIMIT);
+                int end = Math.min(pieces.end(k), toldPlaces);
                 for (int place = pieces.start(k); place < end; place++) {
                     int behind = place + 1 < end ? rowRuns[place + 1] : 0;
                     rowRuns[place] = pieces.row.at(place) == value ? behind + 1 : 0;
@@ -767,49 +782,22 @@ public final class ShortPost {
         }
 
         /** The price of a copy does not tell its place, so of each size the least place will do. */
-        private void tryTold(int i) {
-            int head = KIND_BITS + width(pieces.row.size);
+        private void tryCopies(int i, int kind, int[] runs, int behind, int head) {
             int tried = COPY_SHORTEST - 1;
-            for (int place = 0; place < pieces.row.size; place++) {
-                tried = tryCopies(i, TOLD, place, tried, head);
+            for (int place = 0; place < behind; place++) {
+                int most = kind == FAR ? Math.min(runs[place], i - place) : runs[place];
+                for (int n = tried + 1; n <= most; n++) {
+                    tryPart(i, kind, place, n, head + gammas[n - COPY_LESS]);
+                }
+                tried = Math.max(tried, most);
             }
-        }
-
-        private void tryFar(int i) {
-            int head = KIND_BITS + width(i);
-            int tried = COPY_SHORTEST - 1;
-            for (int place = 0; place < i; place++) {
-                tried = tryCopies(i, FAR, place, tried, head);
-            }
-        }
-
-        /** Tries the sizes above those tried at lesser places; answers what is tried then. */
-        private int tryCopies(int i, int kind, int place, int tried, int head) {
-            int most = kind == TOLD ? toldAt(place) : farAt(i, place);
-            for (int n = tried + 1; n <= most; n++) {
-                tryPart(i, kind, place, n, head + gammas[n - COPY_LESS]);
-            }
-            return Math.max(tried, most);
-        }
-
-        /** The most bytes that a TOLD from a place on can give. */
-        private int toldAt(int place) {
-            return place >= 0 && place < ROW_LIMIT ? rowRuns[place] : 0;
-        }
-
-        /** The most bytes that a FAR from a place on can give: all of them are ahead of byte i. */
-        private int farAt(int i, int place) {
-            return place >= 0 && place < i ? Math.min(letterRuns[place], i - place) : 0;
-        }
-
-        private boolean canBeWhole(int k) {
-            return pieces.length(k) > 0 && toldAt(pieces.start(k)) == pieces.length(k);
         }
 
         private void tryWhole(int i) {
             for (int k = 0; k < pieces.number; k++) {
-                if (canBeWhole(k)) {
-                    tryPart(i, WHOLE, k, pieces.length(k), KIND_BITS + gamma(k + 1));
+                int n = pieces.length(k);
+                if (n > 0 && rowRuns[pieces.start(k)] == n) {
+                    tryPart(i, WHOLE, k, n, KIND_BITS + gammas[k + 1]);
                 }
             }
         }
@@ -828,26 +816,29 @@ public final class ShortPost {
 
         /** The PIECE that GREEDY takes as a WHOLE; NONE if none can be. */
         private int longestWhole() {
-            int longest = NONE;
+            int whole = NONE;
+            int longest = 0;
             for (int k = 0; k < pieces.number; k++) {
-                if (canBeWhole(k) && (longest == NONE || pieces.length(k) > pieces.length(longest))) {
-                    longest = k;
+                int n = pieces.length(k);
+                if (n > longest && rowRuns[pieces.start(k)] == n) {
+                    whole = k;
+                    longest = n;
                 }
             }
-            return longest;
+            return whole;
         }
 
         private int greedyFrom(int i, int whole) {
             if (whole != NONE) {
-                return KIND_BITS + gamma(whole + 1) + prices[i + pieces.length(whole)];
+                return KIND_BITS + gammas[whole + 1] + prices[i + pieces.length(whole)];
             }
             int told = 0;
-            for (int place = 0; place < pieces.row.size; place++) {
-                told = Math.max(told, toldAt(place));
+            for (int place = 0; place < toldPlaces; place++) {
+                told = Math.max(told, rowRuns[place]);
             }
             int far = 0;
             for (int place = 0; place < i; place++) {
-                far = Math.max(far, farAt(i, place));
+                far = Math.max(far, Math.min(letterRuns[place], i - place));
             }
             int n = Math.max(told, far);
             if (n < COPY_SHORTEST) {
@@ -863,7 +854,7 @@ public final class ShortPost {
 
         /** The byte at which a PART begins; NONE if there are not so many. */
         int startOfPart(int part) {
-            if (part < 0 || part >= partsLeft[0] || size == 0) {
+            if (part < 0 || part >= size) {
                 return NONE;
             }
             int at = 0;
@@ -940,18 +931,14 @@ public final class ShortPost {
 
         private void put(int number, int bits) {
             for (int shift = bits - 1; shift >= 0; shift--) {
-                putBit(number >> shift & 1);
+                if ((written & 7) == 0) {
+                    target.add(0);
+                }
+                if ((number >> shift & 1) != 0) {
+                    target.raise(written >> 3, 128 >> (written & 7));
+                }
+                written++;
             }
-        }
-
-        private void putBit(int bit) {
-            if ((written & 7) == 0) {
-                target.add(0);
-            }
-            if (bit != 0) {
-                target.raise(written >> 3, 128 >> (written & 7));
-            }
-            written++;
         }
     }
 
@@ -1139,7 +1126,7 @@ public final class ShortPost {
         }
     }
 
-    /** A row of bytes of a SAMPLE, and in how many SAMPLES it is. */
+    /** A row of bytes of a SAMPLE, and in how many SAMPLES it is; it is moved, not made anew. */
     private static final class Candidate {
         private Bytes source;
         private int start;
@@ -1220,20 +1207,6 @@ public final class ShortPost {
             return total;
         }
 
-        void run(boolean ranked, int most) {
-            findCandidates();
-            taken.clear();
-            int price = least(taken, ranked);
-            for (int round = 0; round < most && round < TRAINED_LIMIT; round++) {
-                int gain = takeBest(ranked, price);
-                if (gain <= 0) {
-                    return;
-                }
-                gains[round] = gain;
-                price = least(taken, ranked);
-            }
-        }
-
         void keepGains() {
             keptCandidates = found;
             keptPieces = taken.number;
@@ -1243,7 +1216,8 @@ public final class ShortPost {
             return k >= 0 && k < keptPieces ? gains[k] : NONE;
         }
 
-        private void findCandidates() {
+        void begin() {
+            taken.clear();
             found = 0;
             for (int i = 0; i < sampleNumber; i++) {
                 for (int start = 0; start < samples[i].size; start++) {
@@ -1294,8 +1268,9 @@ public final class ShortPost {
             candidates[at].become(probe);
         }
 
-        /** Takes the CANDIDATE with the greatest GAIN, if that is above 0: the GAIN. */
-        private int takeBest(boolean ranked, int price) {
+        /** The CANDIDATE with the greatest GAIN becomes a PIECE; false if none gains. */
+        boolean takeNext(boolean ranked) {
+            int price = least(taken, ranked);
             int best = NONE;
             int bestGain = 0;
             for (int i = 0; i < found; i++) {
@@ -1307,10 +1282,12 @@ public final class ShortPost {
                     bestGain = gain;
                 }
             }
-            if (best != NONE) {
-                appendPiece(candidates[best]);
+            if (best == NONE || taken.number >= TRAINED_LIMIT) {
+                return false;
             }
-            return bestGain;
+            gains[taken.number] = bestGain;
+            appendPiece(candidates[best]);
+            return true;
         }
 
         private void appendPiece(Candidate piece) {
@@ -1346,19 +1323,17 @@ public final class ShortPost {
     /** THE WIRE, and what its two ends do as MESSAGES come. */
     private static final class Wire {
         private final Shelf shelf;
-        private final Reader reader;
         private final Message[] messages = new Message[MESSAGE_LIMIT];
         private final Bytes noLetter = new Bytes(0);
-        private final Bytes newest = new Bytes(LETTER_LIMIT);
-        private boolean hasLetter;
+        /** The latest LETTER that came; null if none did. */
+        private Message newest;
         private int sent;
         private int came;
         private int repeated;
         private int missing;
 
-        Wire(Shelf shelf, Reader reader) {
+        Wire(Shelf shelf) {
             this.shelf = shelf;
-            this.reader = reader;
         }
 
         boolean isFull() {
@@ -1450,11 +1425,10 @@ public final class ShortPost {
             }
             it.fate = CAME;
             came++;
-            if (!it.book.held) {
+            if (it.book.held) {
+                newest = it;
+            } else {
                 missing++;
-            } else if (reader.read(it.written) == 0) {
-                newest.become(reader.letter);
-                hasLetter = true;
             }
             it.book.settleLetter();
         }

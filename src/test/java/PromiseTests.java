@@ -233,6 +233,7 @@ public final class PromiseTests {
         due("count(2)", x.count(2), 0);
         due("book(0) of two", book(x, 0, "ab", "abcdefghijklmnop"), BAD);
         due("count(2), the draft stays", x.count(2), 2);
+        for (int kind : new int[] {-1, 3, LOWEST, HIGHEST}) due("book kind", x.book(kind), BAD);
         due("book(1) of 2 and 16", x.book(1), 1);
         due("count(2), the draft is empty", x.count(2), 0);
         due("book(1) of 1", book(x, 1, "a"), BAD);
@@ -376,6 +377,19 @@ public final class PromiseTests {
         partIs(x, 1, 2, 0, 4);
     }
 
+    /** Nothing of an earlier letter stays. */
+    private static void packAgain() {
+        promise = 11;
+        ShortPost x = new ShortPost();
+        book(x, 0, "xabcdef");
+        due("pack abcdef", pack(x, "abcdef", 0), 2 + 3 + 5);
+        due("pack zx", pack(x, "zx", 0), 2 + 3 + 16);
+        due("pack xaaaa", pack(x, "xaaaa", NONE), 2 + 5 + 40);
+        due("pack bXYb", pack(x, "bXYb", NONE), 2 + 5 + 32);
+        partIs(x, 0, 0, NONE, 4);
+        due("part(1, 0)", x.part(1, 0), NONE);
+    }
+
     private static void greedy() {
         promise = 12;
         ShortPost x = new ShortPost();
@@ -399,6 +413,8 @@ public final class PromiseTests {
         due("count(3) after a refusal", x.count(3), 0);
         packedIs(x, 1, 5 + 3 + 21, 21);
         bitsAre(x, "00000 011 00 010 01111010 01111010");
+        book(x, 2, "abc", "abc");
+        due("the least k of two alike", greedy(x, "abc", 2), 2 + 1);
     }
 
     private static void bits() {
@@ -652,6 +668,25 @@ public final class PromiseTests {
         due("no CANDIDATE is longer than 12", x.train(2, 1), 1);
         due("its size", x.tell(1, 0), 12);
         outIs(x, "abcdefghijkl");
+    }
+
+    /** quapng (in two SAMPLES) and lmwb (in three) both gain 51: the longest is taken. */
+    private static void trainTies() {
+        promise = 20;
+        ShortPost x = new ShortPost();
+        sample(x, "FfjadjilmwbOquapng");
+        sample(x, "quapngquapng");
+        sample(x, "lmwbTwkqms");
+        sample(x, "Rlmwb");
+        due("price(NONE)", x.price(NONE), 155 + 65 + 89 + 47);
+        due("train", x.train(2, 6), 0);
+        due("gained(1)", x.gained(1), 2);
+        due("gained(2)", x.gained(2), 51);
+        due("gained(3)", x.gained(3), 47);
+        x.tell(0, 0);
+        outIs(x, "quapng");
+        x.tell(0, 1);
+        outIs(x, "lmwb");
     }
 
     private static void gained() {
@@ -1046,6 +1081,7 @@ public final class PromiseTests {
         isOf();
         pack();
         packTies();
+        packAgain();
         greedy();
         bits();
         part();
@@ -1057,6 +1093,7 @@ public final class PromiseTests {
         forget();
         train();
         candidates();
+        trainTies();
         gained();
         price();
         offer();
