@@ -604,8 +604,12 @@ public final class PromiseTests {
         due("count(1)", x.count(1), 0);
         due("price", x.price(NONE), 0);
         due("train", x.train(1, 1), NONE);
-        due("sample", sample(x, "xyz"), 1);
+        due("sample", sample(x, "abc"), 1);
         due("price", x.price(NONE), 2 + 3 + 24);
+        sample(x, "abcdef");
+        due("train", x.train(2, 6), 0);
+        due("CANDIDATES: abc alone is in both", x.gained(0), 1);
+        due("its size", x.tell(0, 0), 3);
     }
 
     private static void train() {
@@ -641,7 +645,13 @@ public final class PromiseTests {
         due("train, a GAIN of -1", x.train(1, 6), NONE);
         due("train, a GAIN of 3", x.train(2, 6), 4);
         due("gained(2)", x.gained(2), 3);
-        for (int i = 5; i < 24; i++) x.book(0);
+        x.forget();
+        sample(x, "xyz1234");
+        sample(x, "ABCDEFGHIJKLMNOPxyzabcdefghijklmnop");
+        due("train, a GAIN of 0", x.train(1, 6), NONE);
+        due("train, a GAIN of 4", x.train(2, 6), 5);
+        due("gained(2)", x.gained(2), 4);
+        for (int i = 6; i < 24; i++) x.book(0);
         due("train book 25", x.train(2, 6), FULL);
         due("a bad one", x.train(2, 7), BAD);
         due("count(0)", x.count(0), 24);
