@@ -276,6 +276,17 @@ final class ArriveEdges extends Edges {
             due("latest()", x.latest(), 6);
             outIs(x, "abcabc");
         });
+        test(LETTER, "OUT, THE PARTS, fault() and the tape stay as it comes", x -> {
+            x.pack("zz", NONE);
+            x.unpack("11111");
+            x.send("abc", NONE);
+            x.load("tape");
+            x.deliver(0);
+            partsAre(x, own(2));
+            bitsAre(x, "00000 011 00 010 01111010 01111010");
+            due("fault()", x.fault(), 2);
+            due("the tape", x.tape(), "tape");
+        });
         test(LETTER, "none is ever MISSING: a BOOK is HELD till its last LETTER came", x -> {
             x.book(2, "abc");
             x.makeReady(0);

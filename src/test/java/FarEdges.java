@@ -28,13 +28,17 @@ final class FarEdges extends Edges {
         x.pack("abcdxyz", 0);
     }
 
-    private void far(int number, String edge, int below, int above, OfNumber call) {
+    private void far(int number, String sentence, String edge, int below, int above, OfNumber call) {
         promise(number);
-        test(BAD_NUMBER, edge + ", a new object", x -> answers(x, below, above, call));
-        test(BAD_NUMBER, edge + ", an object that was used", x -> {
+        test(sentence, edge + ", a new object", x -> answers(x, below, above, call));
+        test(sentence, edge + ", an object that was used", x -> {
             some(x);
             answers(x, below, above, call);
         });
+    }
+
+    private void far(int number, String edge, OfNumber call) {
+        far(number, BAD_NUMBER, edge, BAD, BAD, call);
     }
 
     private void answers(Post x, int below, int above, OfNumber call) {
@@ -44,47 +48,47 @@ final class FarEdges extends Edges {
     }
 
     private void tapeAndBooks() {
-        far(3, "trim()", BAD, BAD, (x, n) -> x.trim(n));
-        far(5, "out()", NONE, NONE, (x, n) -> x.out(n));
-        far(7, "book()", BAD, BAD, (x, n) -> x.book(n));
-        far(8, "about() of a BOOK", BAD, BAD, (x, n) -> x.about(n, 0));
-        far(8, "about() of a what", BAD, BAD, (x, n) -> x.about(0, n));
-        far(8, "about() of both", BAD, BAD, (x, n) -> x.about(n, n));
-        far(9, "tell() of a BOOK", BAD, BAD, (x, n) -> x.tell(n, 0));
-        far(9, "tell() of a k", BAD, BAD, (x, n) -> x.tell(0, n));
-        far(9, "tell() of both", BAD, BAD, (x, n) -> x.tell(n, n));
-        far(10, "isOf() of a BOOK", BAD, BAD, (x, n) -> x.isOf(n, 0));
-        far(10, "isOf() of a kind", BAD, BAD, (x, n) -> x.isOf(0, n));
-        far(10, "isOf() of both", BAD, BAD, (x, n) -> x.isOf(n, n));
+        far(3, "trim()", (x, n) -> x.trim(n));
+        far(5, "Byte i of OUT; NONE.", "out()", NONE, NONE, (x, n) -> x.out(n));
+        far(7, "book()", (x, n) -> x.book(n));
+        far(8, "about() of a BOOK", (x, n) -> x.about(n, 0));
+        far(8, "about() of a what", (x, n) -> x.about(0, n));
+        far(8, "about() of both", (x, n) -> x.about(n, n));
+        far(9, "tell() of a BOOK", (x, n) -> x.tell(n, 0));
+        far(9, "tell() of a k", (x, n) -> x.tell(0, n));
+        far(9, "tell() of both", (x, n) -> x.tell(n, n));
+        far(10, "isOf() of a BOOK", (x, n) -> x.isOf(n, 0));
+        far(10, "isOf() of a kind", (x, n) -> x.isOf(0, n));
+        far(10, "isOf() of both", (x, n) -> x.isOf(n, n));
     }
 
     private void packing() {
-        far(11, "pack()", BAD, BAD, (x, n) -> x.pack(n));
-        far(12, "greedy()", BAD, BAD, (x, n) -> x.greedy(n));
-        far(14, "part() of an i", BAD, NONE, (x, n) -> x.part(n, 0));
-        far(14, "part() of a what", BAD, BAD, (x, n) -> x.part(0, n));
-        far(14, "part() of both", BAD, BAD, (x, n) -> x.part(n, n));
-        far(15, "rest()", BAD, BAD, (x, n) -> x.rest(n));
+        far(11, "pack()", (x, n) -> x.pack(n));
+        far(12, "greedy()", (x, n) -> x.greedy(n));
+        far(14, "NONE: there are not so many.", "part() of an i", BAD, NONE, (x, n) -> x.part(n, 0));
+        far(14, "part() of a what", (x, n) -> x.part(0, n));
+        far(14, "part() of both", (x, n) -> x.part(n, n));
+        far(15, "rest()", (x, n) -> x.rest(n));
     }
 
     private void training() {
-        far(20, "train() of a kind", BAD, BAD, (x, n) -> x.train(n, 1));
-        far(20, "train() of pieces", BAD, BAD, (x, n) -> x.train(1, n));
-        far(20, "train() of both", BAD, BAD, (x, n) -> x.train(n, n));
-        far(21, "gained()", BAD, NONE, (x, n) -> x.gained(n));
-        far(22, "price()", BAD, BAD, (x, n) -> x.price(n));
+        far(20, "train() of a kind", (x, n) -> x.train(n, 1));
+        far(20, "train() of pieces", (x, n) -> x.train(1, n));
+        far(20, "train() of both", (x, n) -> x.train(n, n));
+        far(21, "NONE: there is none such.", "gained()", BAD, NONE, (x, n) -> x.gained(n));
+        far(22, "price()", (x, n) -> x.price(n));
     }
 
     private void wire() {
-        far(23, "offer()", BAD, BAD, (x, n) -> x.offer(n));
-        far(24, "send()", BAD, BAD, (x, n) -> x.send(n));
-        far(25, "over()", BAD, BAD, (x, n) -> x.over(n));
-        far(26, "deliver()", BAD, BAD, (x, n) -> x.deliver(n));
-        far(27, "lose()", BAD, BAD, (x, n) -> x.lose(n));
-        far(28, "twice()", BAD, BAD, (x, n) -> x.twice(n));
-        far(29, "message() of a MESSAGE", BAD, BAD, (x, n) -> x.message(n, 0));
-        far(29, "message() of a what", BAD, BAD, (x, n) -> x.message(0, n));
-        far(29, "message() of both", BAD, BAD, (x, n) -> x.message(n, n));
-        far(31, "count()", BAD, BAD, (x, n) -> x.count(n));
+        far(23, "offer()", (x, n) -> x.offer(n));
+        far(24, "send()", (x, n) -> x.send(n));
+        far(25, "over()", (x, n) -> x.over(n));
+        far(26, "deliver()", (x, n) -> x.deliver(n));
+        far(27, "lose()", (x, n) -> x.lose(n));
+        far(28, "twice()", (x, n) -> x.twice(n));
+        far(29, "message() of a MESSAGE", (x, n) -> x.message(n, 0));
+        far(29, "message() of a what", (x, n) -> x.message(0, n));
+        far(29, "message() of both", (x, n) -> x.message(n, n));
+        far(31, "count()", (x, n) -> x.count(n));
     }
 }

@@ -10,6 +10,7 @@ final class LeastEdges extends Edges {
     void run() {
         promise(11);
         prices();
+        fewest();
         kinds();
         places();
         sizes();
@@ -37,9 +38,27 @@ final class LeastEdges extends Edges {
             partsAre(x, own(1), told(3, 4));
             due("greedy", x.greedy("abcde", 0), 6 + 22);
         });
+    }
+
+    private void fewest() {
         test(FEWEST, "OWN 4 and FAR 3 for 39 + 6, not OWN 3, FAR 3 and OWN 1 for 29 + 5 + 11", x -> {
             due("pack", x.pack("aaaaaaa", NONE), 45);
             partsAre(x, own(4), far(0, 3));
+        });
+        test(FEWEST, "one TOLD for 10, not two WHOLE for 5 + 5", x -> {
+            x.book(2, "zz", "ab", "cd", "xabcdyyyyy");
+            due("pack", x.pack("abcd", 0), 10);
+            partsAre(x, told(7, 4));
+        });
+        test(FEWEST, "a WHOLE for 9 at last, not FAR and WHOLE for 6 + 3, though FAR is ahead of WHOLE", x -> {
+            x.book(2, "de", "abcx", "11", "22", "33", "44", "55", "abcde");
+            due("pack", x.pack("abcxabcde", 0), 5 + 9);
+            partsAre(x, whole(1, 4), whole(7, 5));
+        });
+        test(FEWEST, "likewise ahead of one PART more", x -> {
+            x.book(2, "de", "abcx", "11", "22", "33", "44", "55", "abcde");
+            due("pack", x.pack("abcxabcdeQ", 0), 5 + 9 + 11);
+            partsAre(x, whole(1, 4), whole(7, 5), own(1));
         });
     }
 

@@ -48,6 +48,19 @@ final class PackEdges extends Edges {
             partsAre(x, own(120));
             due("count(4)", x.count(4), 125);
         });
+        test("BAD: book, a letter of more than 120 bytes.", "120 bytes, the last two being the same", x -> {
+            due("pack", x.pack(fresh(119) + fresh(118, 1), NONE), 975);
+            partsAre(x, own(120));
+        });
+        test("BAD: book, a letter of more than 120 bytes.", "120 bytes that are all the same", x -> {
+            x.book(0, "a".repeat(200));
+            due("pack", x.pack("a".repeat(120), 0), 2 + 8 + 13);
+            partsAre(x, told(0, 120));
+            due("rest(119)", x.rest(119), 11);
+            x.again();
+            due("unpack()", x.unpack(), 120);
+            due("OUT", x.out(), "a".repeat(120));
+        });
         test("BAD: book, a letter of more than 120 bytes.", "121 bytes", x -> {
             due("pack", x.pack(fresh(121), NONE), BAD);
             due("count(3)", x.count(3), 0);

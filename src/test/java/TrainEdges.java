@@ -225,6 +225,14 @@ final class TrainEdges extends Edges {
             due("train(2, 6)", x.train(2, 6), 0);
             due("CANDIDATES: abcd, abc, bcd", x.gained(0), 3);
         });
+        test(CANDIDATES, "a longer row behind one that begins like it", x -> {
+            x.samples("abc1abcdef", "abc2abcdef");
+            due("train(2, 1)", x.train(2, 1), 0);
+            due("CANDIDATES", x.gained(0), 8);
+            due("GAIN", x.gained(2), 2 * (74 - 20) - 55);
+            x.tell(0, 0);
+            outIs(x, "abcdef");
+        });
         test(CANDIDATES, "6 of a row of 5", x -> {
             x.samples("abcde1", "2abcde", "abcde");
             x.train(2, 6);
@@ -240,6 +248,17 @@ final class TrainEdges extends Edges {
             back.insert(0, FOURS[i]);
         }
         x.samples(there.toString(), back.toString());
+    }
+
+    /** xya, xyb and so on, each in two SAMPLES; xyi in two others, and there often. */
+    private static void sampleThrees(Post x, int rows) {
+        StringBuilder there = new StringBuilder(), back = new StringBuilder();
+        for (int i = 0; i < rows; i++) {
+            if (i > 0) there.append(i);
+            there.append("xy").append((char) ('a' + i));
+            back.insert(0, "xy" + (char) ('a' + i) + (i > 0 ? "" + (char) ('k' + i) : ""));
+        }
+        x.samples(there.toString(), back.toString(), "xyiAxyiBxyiCxyi", "DxyiExyiFxyi");
     }
 
     private void theEight() {
@@ -300,6 +319,45 @@ final class TrainEdges extends Edges {
             due("train(2, 1)", x.train(2, 1), 0);
             x.tell(0, 0);
             outIs(x, "zyx");
+        });
+        test(MOST, "likewise, though the longer ones come behind", x -> {
+            x.samples("mnopqr3", "4mnopqr", "5mnopqr6");
+            x.samples("abcdefghijkl1", "2abcdefghijkl");
+            due("train(2, 6)", x.train(2, 6), 0);
+            for (int k = 0; k < x.about(0, 1); k++) due("its size", x.tell(0, k) <= 6 ? 1 : 0, 1);
+            x.tell(0, 0);
+            outIs(x, "mnopqr");
+        });
+        test(MOST, "the ninth by bytes, by the third of them, is none, though it would gain most", x -> {
+            sampleThrees(x, 8);
+            due("train(2, 1)", x.train(2, 1), 0);
+            due("CANDIDATES", x.gained(0), 8);
+            due("GAIN", x.gained(2), 2 * (259 - 238) - 29);
+            x.tell(0, 0);
+            outIs(x, "xya");
+        });
+        test(MOST, "the eighth by bytes, by the third of them, is one", x -> {
+            sampleThrees(x, 7);
+            due("train(2, 1)", x.train(2, 1), 0);
+            due("GAIN", x.gained(2), (81 - 45) + (71 - 42) - 29);
+            x.tell(0, 0);
+            outIs(x, "xyi");
+        });
+        test(MOST, "none of an earlier TRAINING", x -> {
+            x.samples("abcdef", "abcdef");
+            x.train(2, 6);
+            due("CANDIDATES", x.gained(0), 8);
+            x.forget();
+            x.samples("xyz", "xyz");
+            due("train(2, 6)", x.train(2, 6), 1);
+            due("CANDIDATES", x.gained(0), 1);
+            x.tell(1, 0);
+            outIs(x, "xyz");
+        });
+        test(MOST, "none that goes on behind the end of a SAMPLE", x -> {
+            x.samples("xabc", "yabc\0\0\0");
+            due("train(2, 6)", x.train(2, 6), 0);
+            due("CANDIDATES", x.gained(0), 1);
         });
         test(MOST, "bytes above 127 are behind those below", x -> {
             sampleFours(x, 7);
@@ -404,6 +462,33 @@ final class TrainEdges extends Edges {
             due("GAIN", x.gained(2), 2 * (39 - 3) + 2 * (39 - 6 - 11) - 39);
             due("its size", x.tell(0, 0), 4);
             outIs(x, "abcd");
+        });
+        test(GREATEST, "they differ in their last byte alone, the other way round", x -> {
+            x.samples("abcd", "abcd", "abce", "abce");
+            x.train(2, 1);
+            x.tell(0, 0);
+            outIs(x, "abcd");
+        });
+        test(GREATEST, "they differ in their last byte alone, behind other bytes", x -> {
+            x.samples("123abce", "456abce", "789abcd", "!?-abcd");
+            x.train(2, 1);
+            due("GAIN", x.gained(2), 2 * (63 - 32) + 2 * (63 - 46) - 39);
+            x.tell(0, 0);
+            outIs(x, "abcd");
+        });
+        test(GREATEST, "as great and as long, the first by bytes, though the other is in more SAMPLES", x -> {
+            x.samples("12bcde3456", "78bcde90", "!bcde@#$%", "afgh1afgh", "afgh2afgh3afgh");
+            x.train(2, 1);
+            due("GAIN", x.gained(2), 82 - 39);
+            x.tell(0, 0);
+            outIs(x, "afgh");
+        });
+        test(GREATEST, "as great, the longest by one byte, though the other is in more SAMPLES", x -> {
+            x.samples("12bcde3456", "78bcde90", "!bcde@#$%", "vwxyz", "vwxyz1vwxyz");
+            x.train(2, 1);
+            due("GAIN", x.gained(2), 90 - 47);
+            x.tell(0, 0);
+            outIs(x, "vwxyz");
         });
         test(GREATEST, "the greatest, though another is longer and the first by bytes", x -> {
             x.samples("abcde1wxyz2wxyz3wxyz", "4wxyz5abcde", "wxyz");
