@@ -517,9 +517,9 @@ public final class ShortPost {
             if (here < 0 || there < 0) {
                 return 0;
             }
-            int last = Math.min(most, Math.min(size - here, other.size - there));
             int n = 0;
-            while (n < last && values[here + n] == other.values[there + n]) {
+            while (n < most && here + n < size && there + n < other.size
+                    && values[here + n] == other.values[there + n]) {
                 n++;
             }
             return n;

@@ -1,24 +1,20 @@
-import java.io.IOException;
+import com.sun.management.ThreadMXBean;
+import java.lang.management.ManagementFactory;
 import java.lang.reflect.Field;
 import java.lang.reflect.Method;
 import java.lang.reflect.Modifier;
-import java.nio.file.Files;
-import java.nio.file.Path;
 import java.util.Arrays;
 import java.util.Set;
 import java.util.TreeSet;
-import java.util.regex.Matcher;
-import java.util.regex.Pattern;
 
-/** The document's face, no more and no less, and what of LANGUAGE.md can be seen from outside. */
+/** The document's face, no more and no less, and the room that the dearest runs take. */
 public final class FormTest {
     private static final String[] FACE = {"feed 5", "trim 1", "again 0", "out 1", "piece 0", "book 1", "about 2",
         "tell 2", "isOf 2", "pack 1", "greedy 1", "bits 0", "part 2", "rest 1", "unpack 0", "fault 0", "sample 0",
         "forget 0", "train 2", "gained 1", "price 1", "offer 1", "send 1", "over 1", "deliver 1", "lose 1",
         "twice 1", "message 2", "latest 0", "count 1"};
-    private static final String[] RULED_OUT = {"throw", "throws", "try", "catch", "synchronized", "assert", "static \\{",
-        "->", "::", "equals\\(", "hashCode", "toString", "Random", "System\\.(?!arraycopy)", "Thread", "Exact\\(",
-        "Integer\\.[A-Z]", "native", "volatile", "protected"};
+    /** A twentieth of 7.3 million elements, were each of 4 bytes. */
+    private static final long ROOM = 7300000L * 4 / 20;
 
     private static int wrong = 0;
 
@@ -33,12 +29,7 @@ public final class FormTest {
         return !Modifier.isPrivate(modifiers);
     }
 
-    private static void face() {
-        Class<?> face = ShortPost.class;
-        due("public final", Modifier.isPublic(face.getModifiers()) && Modifier.isFinal(face.getModifiers()));
-        due("one constructor", face.getDeclaredConstructors().length == 1);
-        due("a public one, of nothing", face.getConstructors().length == 1
-                && face.getConstructors()[0].getParameterCount() == 0);
+    private static void methods(Class<?> face) {
         Set<String> methods = new TreeSet<>();
         for (Method method : face.getDeclaredMethods()) {
             if (method.isSynthetic() || !visible(method.getModifiers())) continue;
@@ -48,61 +39,95 @@ public final class FormTest {
             methods.add(method.getName() + " " + method.getParameterCount());
         }
         due("the methods are " + methods, methods.equals(new TreeSet<>(Arrays.asList(FACE))));
-        Set<String> fields = new TreeSet<>();
+    }
+
+    private static void constants(Class<?> face) throws IllegalAccessException {
+        Set<String> found = new TreeSet<>();
         for (Field field : face.getDeclaredFields()) {
-            if (visible(field.getModifiers())) fields.add(Modifier.toString(field.getModifiers()) + " " + field.getName());
+            if (!visible(field.getModifiers())) continue;
+            boolean constant = Modifier.isStatic(field.getModifiers()) && field.getType() == int.class;
+            found.add(Modifier.toString(field.getModifiers()) + " " + field.getName()
+                    + (constant ? " " + field.getInt(null) : ""));
         }
-        Set<String> constants = new TreeSet<>();
-        for (String name : new String[] {"BAD", "NO", "FULL", "NONE"}) constants.add("public static final " + name);
-        due("the fields are " + fields, fields.equals(constants));
+        Set<String> asked = new TreeSet<>();
+        for (String constant : new String[] {"BAD -3", "NO -4", "FULL -5", "NONE -1"}) {
+            asked.add("public static final " + constant);
+        }
+        due("the fields are " + found, found.equals(asked));
     }
 
-    private static void classesInside() {
-        Set<String> names = new TreeSet<>();
-        for (String method : FACE) names.add(method.substring(0, method.indexOf(' ')));
-        Class<?>[] inside = ShortPost.class.getDeclaredClasses();
-        due("at most some twelve classes", inside.length < 12);
-        for (Class<?> one : inside) {
-            int modifiers = one.getModifiers();
-            due(one + " is static, and not public", Modifier.isStatic(modifiers) && !Modifier.isPublic(modifiers));
-            int fields = 0;
-            for (Field field : one.getDeclaredFields()) {
-                if (!Modifier.isStatic(field.getModifiers())) fields++;
-                else due(field + " is final", Modifier.isFinal(field.getModifiers()));
+    private static void face() throws IllegalAccessException {
+        Class<?> face = ShortPost.class;
+        due("public final", Modifier.isPublic(face.getModifiers()) && Modifier.isFinal(face.getModifiers()));
+        due("one constructor", face.getDeclaredConstructors().length == 1);
+        due("a public one, of nothing", face.getConstructors().length == 1
+                && face.getConstructors()[0].getParameterCount() == 0);
+        methods(face);
+        constants(face);
+    }
+
+    private static void load(ShortPost post, int rows, int seed) {
+        for (int i = 0; i < rows; i++) post.feed(seed, seed + i, seed, seed * 31, seed * (i + 7));
+    }
+
+    /** The greatest letters that can be, until no call is left. */
+    private static void sendMany() {
+        ShortPost post = new ShortPost();
+        for (int call = 0; call < 511; call += 7) {
+            load(post, 6, 0x01020304 * call + call);
+            post.send(ShortPost.NONE);
+        }
+    }
+
+    /** The greatest SAMPLES, and TRAINING again and again. */
+    private static void trainMany() {
+        ShortPost post = new ShortPost();
+        for (int i = 0; i < 8; i++) {
+            load(post, 2, 0x61626364);
+            post.sample();
+        }
+        for (int call = 24; call < 512; call++) post.train(1 + call % 2, 6);
+    }
+
+    /** The greatest BOOKS that can be. */
+    private static void bookMany() {
+        ShortPost post = new ShortPost();
+        for (int i = 0; i < 8; i++) {
+            for (int k = 0; k < 20; k++) {
+                load(post, 1, 0x01010101 * k + i);
+                post.trim(16);
+                post.piece();
             }
-            due(one + " has " + fields + " fields", fields <= 20);
-            for (Method method : one.getDeclaredMethods()) {
-                due(method + " bears a public name", !names.contains(method.getName()));
-                due(method + " takes at most seven", method.getParameterCount() <= 7);
-            }
+            post.book(2);
         }
     }
 
-    private static void source() throws IOException {
-        String text = Files.readString(Path.of("src/main/java/ShortPost.java"));
-        String code = text.replaceAll("(?s)/\\*.*?\\*/", "").replaceAll("//[^\n]*", "");
-        for (String ruledOut : RULED_OUT) {
-            String whole = Character.isLetter(ruledOut.charAt(0)) ? "\\b" + ruledOut : ruledOut;
-            if (ruledOut.matches("[a-z]+")) whole += "\\b";
-            Matcher found = Pattern.compile(whole).matcher(code);
-            due("ruled out: " + ruledOut, !found.find());
+    private static void readMany() {
+        ShortPost post = new ShortPost();
+        load(post, 6, 0x71727374);
+        post.pack(ShortPost.NONE);
+        for (int call = 7; call < 511; call += 2) {
+            post.again();
+            post.unpack();
         }
-        Matcher imports = Pattern.compile("import ([^;]*);").matcher(code);
-        while (imports.find()) due("import " + imports.group(1), imports.group(1).equals("java.util.Arrays"));
-        Matcher method = Pattern.compile("(?m)^(    |        )\\S[^;=\n]*\\) \\{\n((?:\\1    .*\n|\n)*)\\1\\}").matcher(code);
-        int methods = 0;
-        while (method.find()) {
-            methods++;
-            int lines = method.group().split("\n").length;
-            due("a method of " + lines + " lines: " + method.group().split("\n")[0], lines <= 60);
-        }
-        due("methods found: " + methods, methods > 100);
     }
 
-    public static void main(String[] args) throws IOException {
+    private static void room() {
+        ThreadMXBean threads = (ThreadMXBean) ManagementFactory.getThreadMXBean();
+        Runnable[] runs = {FormTest::sendMany, FormTest::trainMany, FormTest::bookMany, FormTest::readMany};
+        for (int i = 0; i < runs.length; i++) {
+            // The first time classes are loaded, which would be counted as well.
+            runs[i].run();
+            long before = threads.getCurrentThreadAllocatedBytes();
+            runs[i].run();
+            long taken = threads.getCurrentThreadAllocatedBytes() - before;
+            due("run " + i + " takes " + taken + " bytes", taken < ROOM);
+        }
+    }
+
+    public static void main(String[] args) throws IllegalAccessException {
         face();
-        classesInside();
-        source();
+        room();
         System.out.println(wrong == 0 ? "the form is as due" : wrong + " faults of form");
         if (wrong != 0) System.exit(1);
     }
