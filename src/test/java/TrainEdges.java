@@ -97,6 +97,16 @@ final class TrainEdges extends Edges {
             x.train(2, 6);
             due("CANDIDATES", x.gained(0), 1);
         });
+        test(none, "a shorter SAMPLE in a longer one's place ends with its own last byte", x -> {
+            x.samples("abcd");
+            x.forget();
+            x.samples("abc", "abcd", "abcd", "abcd", "abcd", "abcd", "abcd", "abcd");
+            due("train(1, 1)", x.train(1, 1), 0);
+            due("CANDIDATES", x.gained(0), 3);
+            due("the GAIN", x.gained(2), 29 + 7 * 39 - (6 + 7 * 8) - 39);
+            x.tell(0, 0);
+            due("its PIECE", x.out(), "abcd");
+        });
         test(none, "BOOKS and gained() stay", x -> {
             x.samples("abcdef", "abcdef");
             x.train(2, 6);
